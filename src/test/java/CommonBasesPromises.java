@@ -519,6 +519,8 @@ public final class CommonBasesPromises {
         due("UNIFORM with 0", x.best(1), 0);
         x.uniform(1, 2);
         due("best(1)", x.best(1), 6);
+        x.uniform(1, 10);
+        due("every element, the lightest too", x.best(1), 63);
         for (int which : NO_MATROIDS) {
             due("best(" + which + ")", x.best(which), BAD);
         }
@@ -550,6 +552,10 @@ public final class CommonBasesPromises {
             due("common(" + k + ")", x.common(k), NONE);
         }
         leastNumberIsNotFirstInOrder();
+        x.uniform(0, 4);
+        x.uniform(1, 10);
+        due("all elements", x.common(4), 15);
+        due("more than all elements", x.common(5), NONE);
     }
 
     /** {2, 3} and {0, 4} weigh the same: THE ORDER would say 17, the least number says 12. */
